@@ -483,6 +483,14 @@ public final class CordSeals {
             return i == count ? LAST_YEAR : begin[i] - 1;
         }
 
+        int spanOf(int year) {
+            int i = 0;
+            while (i < count && begin[i] <= year) {
+                i++;
+            }
+            return i;
+        }
+
         int rightSpans(int colour) {
             if (colour == NONE) {
                 return (1 << (count + 1)) - 1;
@@ -892,22 +900,15 @@ public final class CordSeals {
             spans &= other.spans;
         }
 
-        private int firstIn(Reigns reigns, int i) {
-            return Math.max(low, reigns.firstOfSpan(i));
-        }
-
-        private int lastIn(Reigns reigns, int i) {
-            return Math.min(high, reigns.lastOfSpan(i));
-        }
-
-        private boolean reaches(Reigns reigns, int i) {
-            return (spans >> i & 1) != 0 && firstIn(reigns, i) <= lastIn(reigns, i);
+        private boolean hasSpan(int i) {
+            return (spans >> i & 1) != 0;
         }
 
         int first(Reigns reigns) {
             for (int i = 0; i <= reigns.count; i++) {
-                if (reaches(reigns, i)) {
-                    return firstIn(reigns, i);
+                int from = Math.max(low, reigns.firstOfSpan(i));
+                if (hasSpan(i) && from <= Math.min(high, reigns.lastOfSpan(i))) {
+                    return from;
                 }
             }
             return NONE;
@@ -915,8 +916,9 @@ public final class CordSeals {
 
         int last(Reigns reigns) {
             for (int i = reigns.count; i >= 0; i--) {
-                if (reaches(reigns, i)) {
-                    return lastIn(reigns, i);
+                int to = Math.min(high, reigns.lastOfSpan(i));
+                if (hasSpan(i) && to >= Math.max(low, reigns.firstOfSpan(i))) {
+                    return to;
                 }
             }
             return NONE;
@@ -925,20 +927,17 @@ public final class CordSeals {
         int count(Reigns reigns) {
             int years = 0;
             for (int i = 0; i <= reigns.count; i++) {
-                if (reaches(reigns, i)) {
-                    years += lastIn(reigns, i) - firstIn(reigns, i) + 1;
+                int from = Math.max(low, reigns.firstOfSpan(i));
+                int to = Math.min(high, reigns.lastOfSpan(i));
+                if (hasSpan(i) && from <= to) {
+                    years += to - from + 1;
                 }
             }
             return years;
         }
 
         boolean contains(Reigns reigns, int year) {
-            for (int i = 0; i <= reigns.count; i++) {
-                if (reaches(reigns, i) && year >= firstIn(reigns, i) && year <= lastIn(reigns, i)) {
-                    return true;
-                }
-            }
-            return false;
+            return year >= low && year <= high && hasSpan(reigns.spanOf(year));
         }
     }
 
@@ -1362,11 +1361,11 @@ public final class CordSeals {
         // Stops at the first sign that is no greater digit: what may stand there is for the caller to say.
         private int readRising(int most) {
             int read = 0;
-            int least = 0;
-            while (!failed && isDigit(least, most)) {
-                int digit = readDigit(least, most);
-                read |= 1 << digit;
-                least = digit + 1;
+            for (int digit = 0; digit <= most; digit++) {
+                if (!failed && isDigit(digit, digit)) {
+                    at++;
+                    read |= 1 << digit;
+                }
             }
             return read;
         }
