@@ -19,6 +19,7 @@ public final class ActionsTest {
         settings();
         undoing();
         undoLimit();
+        undoAndGoOn();
         undoOfEach();
         failedActionsAreNotRemembered();
         Check.end();
@@ -260,6 +261,14 @@ public final class ActionsTest {
         order(x, 0, 8, 2, 7, 6, 3, 4);
         Check.same("good behind", x.about(8), 0);
         Check.same("sort again", x.sort(0), 0);
+        CordSeals z = new CordSeals();
+        z.die(0, 1999, 1999);
+        z.seal(0, 1, NONE, 4, 0);
+        z.seal(0, 1, NONE, 3, 0);
+        z.shelve(0, 5, 0);
+        z.shelve(1, 5, 1);
+        Check.same("a fake goes behind 1999", z.sort(5), 2);
+        order(z, 5, 1, 0);
         CordSeals y = Sample.make();
         y.seal(1, 0, NONE, 0, 3);
         y.seal(1, 0, NONE, 1, 3);
@@ -333,6 +342,23 @@ public final class ActionsTest {
         }
         Check.badState(x, "undo of what is forgotten", x::undo);
         Check.same("setting at last", x.set(0, 0), 26);
+    }
+
+    private static void undoAndGoOn() {
+        CordSeals x = new CordSeals();
+        for (int v = 1; v <= 3; v++) {
+            x.set(0, v);
+        }
+        x.undo();
+        x.undo();
+        for (int v = 11; v <= 15; v++) {
+            Check.same("set behind undo", x.set(0, v), v == 11 ? 1 : v - 1);
+        }
+        for (int v = 14; v >= 11; v--) {
+            Check.same("undo then", x.undo(), v - 9);
+            Check.same("setting then", x.set(0, 99), v);
+            Check.same("undo of the look at it", x.undo(), v - 9);
+        }
     }
 
     // Every action, one behind the other, is taken back to just what was there.

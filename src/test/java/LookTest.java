@@ -142,6 +142,10 @@ public final class LookTest {
         Check.holds("1211", !x.isPossible(9, 1211));
         Check.same("first year without a cord", x.dated(10, 0), 1040);
         Check.same("years without a cord", x.dated(10, 2), 171);
+        Check.same("last year without a cord", x.dated(10, 1), 1210);
+        x.seal(2, 0, NONE, 0, 0);
+        Check.same("last year ahead of all reigns", x.dated(11, 1), 1099);
+        Check.same("years ahead of all reigns", x.dated(11, 2), 100);
         CordSeals y = new CordSeals();
         y.die(0, 1000, 1999);
         y.seal(0, 0, NONE, 0, 0);
@@ -187,6 +191,9 @@ public final class LookTest {
         Check.same("its years are as before", y.dated(0, 2), 30);
         y.cut(8);
         Check.same("fakes do not narrow the charter", y.dated(0, 3), 0);
+        y.set(0, 4);
+        Check.same("fakes of die 0", y.ofDie(0, 5), 2);
+        Check.same("casts", y.about(4), 3);
         CordSeals z = Sample.make();
         z.seal(1, 1, 7, 50, 0);
         Check.same("a cast ahead of a wrong colour", z.dated(9, 3), 1);
@@ -236,6 +243,11 @@ public final class LookTest {
         Check.same("fakes are nowhere wrong", x.about(8), 0);
         x.shelve(8, 4, 4);
         Check.same("a fake between does not help", x.about(8), 1);
+        CordSeals y = Sample.make();
+        y.seal(1, 0, NONE, 0, 3);
+        y.shelve(2, 0, 0);
+        y.shelve(9, 0, 1);
+        Check.same("the same first year twice", y.about(8), 0);
     }
 
     private static void wrongNumbers() {

@@ -41,6 +41,7 @@ public final class ScriptsTest {
         x.hang(0, 0);
         x.shelve(0, 0, 0);
         script(x, 101121, NONE);
+        script(x, 121050, NONE);
         script(x, 101120, 0);
         script(x, 100999, 0);
         script(x, 102000, 0);
@@ -57,9 +58,11 @@ public final class ScriptsTest {
         script(x, 401600, 0);
         script(x, 409000, 0);
         script(x, 502030, NONE);
+        script(x, 501000, NONE);
         script(x, 502040, 0);
         script(x, 502990, 0);
         script(x, 509000, 0);
+        script(x, 600000, NONE);
         script(x, 650000, NONE);
         script(x, 660000, 0);
         script(x, 709900, NONE);
@@ -105,6 +108,9 @@ public final class ScriptsTest {
         Check.same("a crack may be shown then", x.runScript(3, 101999500030900003L), NONE);
         Check.same("its years are behind the die", x.runScript(2, 101130500020L), NONE);
         Check.same("set makes casts", x.runScript(2, 700400900001L), NONE);
+        Check.same("set makes none", x.runScript(2, 700500900000L), NONE);
+        Check.same("set of lead", x.runScript(2, 710400903000L), NONE);
+        Check.same("set twice", x.runScript(3, 700000701000800004L), NONE);
         Check.same("shelve, shelve, another house", x.runScript(3, 400000401000402000L), 2);
         Check.same("shelve, sort, shelve", x.runScript(3, 400000600000401010L), NONE);
         Check.same("fakes at most", x.runScript(3, 200000208000800005L), 2);

@@ -124,6 +124,9 @@ public final class TextTest {
     private static void wrongSealsAndHangings() {
         position("w", 1);
         position("w.", 1);
+        position("w:", 1);
+        position("b:", 1);
+        position("b/", 1);
         position("b0", 2);
         position("b08", 2);
         position("b0-", 2);
@@ -202,6 +205,10 @@ public final class TextTest {
         Check.badState(x, "restore(1) behind load", () -> x.restore(1));
         Check.same("load again", x.load(), 8);
         Check.same("seals behind load again", x.about(2), 1);
+        Check.write(x, "d01000-1999;w0000;w0700");
+        Check.same("load without reigns", x.load(), 0);
+        Check.same("colours of no reign", x.about(3), 2);
+        Check.same("no reign for colour 0", x.dated(0, 3), 2);
         Check.same("setting 0 is new", x.set(0, 5), 10);
         Check.same("setting 1 is new", x.set(1, 5), 3);
     }

@@ -122,6 +122,10 @@ public final class WouldBeTest {
         x.hang(0, 0);
         x.hang(8, 0);
         Check.same("1120 without a fake by 4", x.inYear(1120), 1);
+        x.seal(0, 0, NONE, 0, 0);
+        Check.same("1120 with one more", x.inYear(1120), 2);
+        x.undo();
+        Check.same("1120 without it again", x.inYear(1120), 1);
         Check.badArgument(x, "inYear(999)", () -> x.inYear(999));
         Check.badArgument(x, "inYear(2000)", () -> x.inYear(2000));
         Check.same("inYear(1000)", x.inYear(1000), 0);
