@@ -894,6 +894,12 @@ public final class CordSeals {
             spans = rightSpans;
         }
 
+        void copy(Years other) {
+            low = other.low;
+            high = other.high;
+            spans = other.spans;
+        }
+
         void narrow(Years other) {
             low = Math.max(low, other.low);
             high = Math.min(high, other.high);
@@ -982,7 +988,7 @@ public final class CordSeals {
             }
             for (int c = 0; c < CHARTERS; c++) {
                 findCommon(state, c, NONE);
-                ofCharters[c].start(common.low, common.high, common.spans);
+                ofCharters[c].copy(common);
                 if (common.first(state.reigns) == NONE) {
                     blameCharter(state, c);
                 }
@@ -1011,15 +1017,17 @@ public final class CordSeals {
             return state.seals.hangsOn[s] == c && (reason[s] == 0 || reason[s] == NO_CHARTER_YEAR);
         }
 
+        // A charter without seals that date it has no span, and so no year.
         private void findCommon(State state, int c, int without) {
             boolean found = false;
             common.start(FIRST_YEAR, LAST_YEAR, 0);
             for (int s = 0; s < state.seals.count; s++) {
                 if (s != without && dates(state, s, c)) {
-                    if (!found) {
-                        common.spans = ofSeals[s].spans;
+                    if (found) {
+                        common.narrow(ofSeals[s]);
+                    } else {
+                        common.copy(ofSeals[s]);
                     }
-                    common.narrow(ofSeals[s]);
                     found = true;
                 }
             }
