@@ -76,7 +76,8 @@ public final class RandomRunsTest {
     private void step(int seed, int i, int method, int[] a, long wide) {
         String got = outcome(() -> Face.call(real, method, a, wide));
         String due = outcome(() -> model.call(method, a, wide));
-        String what = "seed " + seed + " call " + i + ": promise " + method + " " + java.util.Arrays.toString(a) + " " + wide;
+        String what = "seed " + seed + " call " + i + ": promise " + method + " " + java.util.Arrays.toString(a) + " "
+            + wide;
         Check.same(what, got, due);
     }
 

@@ -1,3 +1,5 @@
+import java.math.BigInteger;
+
 /** Promises 33 and 34: runScript, simulate. */
 public final class ScriptsTest {
     private static final int NONE = CordSeals.NONE;
@@ -10,6 +12,7 @@ public final class ScriptsTest {
         simulateRanges();
         eachTurn();
         manyTurns();
+        overflow();
         Check.end();
     }
 
@@ -201,12 +204,39 @@ public final class ScriptsTest {
                 try {
                     turn(y, r % 8, r / 8);
                 } catch (RuntimeException e) {
-                    continue;
+                    // Left out.
                 }
             }
             int due = 1000 * y.about(2) + 10 * y.about(3) + y.about(8);
             Check.same("simulate of " + m + " turns", x.simulate(seed * 1234567890123L, m), due);
             Check.same("the seals stay", x.about(2), 20);
         }
+    }
+
+    // The numbers without any long: what goes beyond 64 bits is cut off, and r is the upper 31 of them.
+    private static void overflow() {
+        BigInteger factor = new BigInteger("6364136223846793005");
+        BigInteger more = new BigInteger("1442695040888963407");
+        BigInteger all = BigInteger.ONE.shiftLeft(64);
+        long[] seeds = {0, 1, -1, Long.MAX_VALUE, Long.MIN_VALUE, Long.MAX_VALUE - 1, Long.MIN_VALUE + 1, 1L << 32,
+            -1L << 32, 1L << 62, 123456789012345678L, -987654321098765432L};
+        int upper = 0;
+        for (long seed : seeds) {
+            BigInteger x = BigInteger.valueOf(seed).mod(all);
+            CordSeals y = collection();
+            for (int m = 1; m <= 60; m++) {
+                x = x.multiply(factor).add(more).mod(all);
+                upper += x.testBit(63) ? 1 : 0;
+                int r = x.shiftRight(33).intValueExact();
+                try {
+                    turn(y, r % 8, r / 8);
+                } catch (RuntimeException e) {
+                    // Left out.
+                }
+                int due = 1000 * y.about(2) + 10 * y.about(3) + y.about(8);
+                Check.same("simulate(" + seed + ", " + m + ")", collection().simulate(seed, m), due);
+            }
+        }
+        Check.holds("x is negative as a long about half the time", upper > 240 && upper < 480);
     }
 }

@@ -191,7 +191,8 @@ public final class TextTest {
         x.shelve(0, 0, 0);
         x.save(0);
         x.save(1);
-        Check.write(x, "r12000;r12001;r11991;d01200-1100;d01300-1400;k11300;k01300;k01300;w1.00;w0.001;w0.000;h010;h005");
+        Check.write(x, "r12000;r12001;r11991;d01200-1100;d01300-1400;k11300;k01300;k01300;"
+            + "w1.00;w0.001;w0.000;h010;h005");
         Check.same("load with wrong entries", x.load(), 8);
         Check.same("reigns behind it", x.about(0), 1);
         Check.same("dies behind it", x.about(1), 1);
