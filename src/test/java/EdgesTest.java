@@ -18,10 +18,12 @@ public final class EdgesTest {
         moving();
         remembered();
         undoAndActAgain();
+        undoAndLookAgain();
         olderByOneYear();
         decidesOfMany();
         cracksBringAll();
         leastOfMany();
+        leastOfOne();
         fullScripts();
         fullSimulation();
         Check.end();
@@ -369,6 +371,12 @@ public final class EdgesTest {
         Check.same("shelf 1 is empty and takes house 5", x.shelve(23, 1, 0), 1);
         Check.same("within the full shelf", x.shelve(7, 0, 5), 6);
         order(x, 0, 1, 2, 3, 4, 5, 7);
+        CordSeals y = backward();
+        Check.same("take from a full last shelf", y.take(2), 5);
+        order(y, 5, 0, 1, 3, 4, 5);
+        Check.same("put it back, last", y.shelve(2, 5, 5), 6);
+        Check.same("take the last of the last shelf", y.take(2), 5);
+        order(y, 5, 0, 1, 3, 4, 5);
         Check.same("take the first of six", x.take(1), 0);
         order(x, 0, 2, 3, 4, 5, 7);
         Check.same("take the last one", x.take(7), 0);
@@ -420,6 +428,30 @@ public final class EdgesTest {
             }
         }
         Check.badState(x, "undo of what is forgotten", x::undo);
+    }
+
+    // With looks alone between, that do not touch what actions are tried on.
+    private static void undoAndLookAgain() {
+        CordSeals x = new CordSeals();
+        x.die(0, 1000, 1999);
+        x.seal(0, 0, NONE, 0, 0);
+        x.hang(0, 0);
+        x.hang(0, 1);
+        x.undo();
+        x.hang(0, 2);
+        x.hang(0, 3);
+        Check.same("undo of hang(0, 3)", x.undo(), 4);
+        Check.same("charter then", x.ofSeal(0, 5), 2);
+        Check.same("undo of hang(0, 2)", x.undo(), 3);
+        Check.same("charter then", x.ofSeal(0, 5), 0);
+        x.hang(0, 4);
+        Check.noSuch(x, "hang(0, 6)", () -> x.hang(0, 6));
+        Check.same("what would be", x.ifHung(0, 5), 1000);
+        Check.same("undo of hang(0, 4)", x.undo(), 3);
+        Check.same("charter then", x.ofSeal(0, 5), 0);
+        Check.same("undo of hang(0, 0)", x.undo(), 2);
+        Check.same("charter then", x.ofSeal(0, 5), NONE);
+        Check.same("seals then", x.about(2), 1);
     }
 
     // ---- promises 27 to 34
@@ -519,6 +551,17 @@ public final class EdgesTest {
         Check.same("no fake of lead with the other setting", x.leastBubbles(1, 0), 99);
         Check.same("the settings stay", x.set(0, 0), 11);
         Check.same("both of them", x.set(1, 0), 3);
+    }
+
+    private static void leastOfOne() {
+        for (int bubbles = 0; bubbles <= 99; bubbles++) {
+            CordSeals x = new CordSeals();
+            x.die(0, 1000, 1999);
+            x.seal(0, 1, NONE, bubbles, 0);
+            Check.same("one seal of lead", x.leastBubbles(1, 0), bubbles);
+            Check.same("it may be a fake", x.leastBubbles(1, 1), 0);
+            Check.same("the setting of wax", x.leastBubbles(0, 0), bubbles > 3 ? NONE : 0);
+        }
     }
 
     private static void script(CordSeals x, long group, int due) {
